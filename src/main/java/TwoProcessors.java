@@ -1407,7 +1407,6 @@ public final class TwoProcessors {
             written = 0;
             fetchBegan = NONE;
             fetched = 0;
-            stirred = false;
         }
 
         void copyFrom(Machine other) {
@@ -1430,7 +1429,6 @@ public final class TwoProcessors {
             written = other.written;
             fetchBegan = other.fetchBegan;
             fetched = other.fetched;
-            stirred = other.stirred;
         }
 
         void setRooms(int firstQueue, int lastQueue, int much) {

@@ -107,6 +107,14 @@ public final class PromisesTest {
         CHECK.due("end(8)", x.end(8), 8);
         CHECK.due("program()", x.program(), 2);
         CHECK.due("end(1) behind it", x.end(1), NONE);
+        Check.write(x, "late 1234");
+        x.end(8);
+        x.program();
+        CHECK.due("fault(1), what was cut off is gone", x.fault(1), 8);
+        Check.write(x, "abcdefghi");
+        x.end(8);
+        x.program();
+        CHECK.due("fault(1), what was cut off is gone", x.fault(1), 8);
     }
 
     private static void program() {
@@ -515,6 +523,11 @@ public final class PromisesTest {
         x.cycles(50);
         CHECK.due("register(2)", x.register(2), 1);
         CHECK.due("cell(0)", x.cell(0), 7);
+        // Memory writes while both have ended: that is not STUCK.
+        x = Check.of("late 9;load b a 0;store b a 1;store a a 2;store a a 3;");
+        CHECK.due("cycles(50)", x.cycles(50), 14);
+        CHECK.due("DONE", x.count(1), 1);
+        CHECK.due("written", x.count(11), 3);
         x = Check.of("reg c 2;cell 2 4;load f c 0;add f f f;store f c 0;load g c 0;store g c 1;");
         CHECK.due("cycles(50)", x.cycles(50), 12);
         CHECK.due("what was stored ahead is loaded", x.cell(3), 8);
@@ -766,12 +779,12 @@ public final class PromisesTest {
         x.begin();
         x.again(0);
         CHECK.due("taken anew", x.count(0), 3);
-        TwoProcessors y = Check.of("cell 0 3;load a a 0;");
+        TwoProcessors y = Check.of("cell 0 3;cell 3 5;load a a 0;load a a 0;");
         y.cycles(2);
         y.image(1);
         y.cycles(50);
         y.again(1);
-        CHECK.due("a fetch under way", y.cycles(50), 3);
-        CHECK.due("register(0)", y.register(0), 3);
+        CHECK.due("a fetch under way", y.cycles(50), 7);
+        CHECK.due("register(0)", y.register(0), 5);
     }
 }
