@@ -837,12 +837,9 @@ public final class TwoProcessors {
             length = Math.max(0, Math.min(most, Math.min(bytes.length, TAPE_MOST)));
             count = 0;
             int at = 0;
-            while (at < length) {
-                if (isBlank(tape[at])) {
-                    at++;
-                } else {
-                    at = scanOne(at);
-                }
+            // Each turn goes by a byte at least.
+            for (int turn = 0; turn < length && at < length; turn++) {
+                at = isBlank(tape[at]) ? at + 1 : scanOne(at);
             }
             add(OVER, NONE, length, length);
         }

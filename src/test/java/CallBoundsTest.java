@@ -307,9 +307,9 @@ public final class CallBoundsTest {
 
     private static void textBounds() {
         CHECK.about("'The i-th byte of the text of the k-th DEED of a side of an INSTRUCTION. NONE: there is none such (of any)'");
-        TwoProcessors x = Check.of("keep a;add b a a;set a 1;");
         String[][][] due = {{{"send a", "send a"}, {"set a 1"}, {"end"}}, {{"add b a a"}, {}, {"end"}}};
         for (int side = -1; side <= 2; side++) {
+            TwoProcessors x = Check.of("keep a;add b a a;set a 1;");
             for (int i = -1; i <= 3; i++) {
                 for (int k = -1; k <= 2; k++) {
                     boolean can = side >= 0 && side <= 1 && i >= 0 && i <= 2 && k >= 0 && k < due[side][i].length;
@@ -321,6 +321,7 @@ public final class CallBoundsTest {
                 }
             }
         }
+        TwoProcessors x = Check.of("keep a;add b a a;set a 1;");
         for (int far : new int[] {LOW, HIGH}) {
             CHECK.due("text(far, 0, 0, 0)", x.text(far, 0, 0, 0), NONE);
             CHECK.due("text(0, far, 0, 0)", x.text(0, far, 0, 0), NONE);

@@ -83,16 +83,18 @@ final class Check {
     /** All deeds of a side, instructions parted by '|', deeds by ','. */
     static String code(TwoProcessors x, int side) {
         StringBuilder all = new StringBuilder();
-        for (int i = 0; x.deeds(side, i) != TwoProcessors.NONE; i++) {
+        int deeds = x.deeds(side, 0);
+        for (int i = 0; deeds != TwoProcessors.NONE; i++) {
             if (i > 0) {
                 all.append('|');
             }
-            for (int k = 0; k < x.deeds(side, i); k++) {
+            for (int k = 0; k < deeds; k++) {
                 if (k > 0) {
                     all.append(',');
                 }
                 all.append(deed(x, side, i, k));
             }
+            deeds = x.deeds(side, i + 1);
         }
         return all.toString();
     }

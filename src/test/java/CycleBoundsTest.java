@@ -22,6 +22,7 @@ public final class CycleBoundsTest {
         memoryWaitsForData();
         dataWaitForStores();
         issueTakesWhatIsThen();
+        whatIsInAQueueStays();
         cellInStores();
         cellInStoresAheadOfFull();
         fetchBeginsBehindIt();
@@ -351,6 +352,39 @@ public final class CycleBoundsTest {
         CHECK.due("queue(0, 0), as it was", x.queue(0, 0), 1);
         x.cycles(50);
         CHECK.due("register(2)", x.register(2), 1);
+    }
+
+    private static void whatIsInAQueueStays() {
+        CHECK.about("what is put, given, sent, told is what it was then, though it changes while it waits");
+        // The first store waits for what is loaded late; all others behind it.
+        TwoProcessors x = Check.of("late 9;keep c;reg c 5;load b a 8;store b a 0;store c a 1;set c 9;");
+        x.cycles(5);
+        CHECK.due("the runner's c", x.register(2), 9);
+        CHECK.due("not written yet", x.cell(1), 0);
+        x.cycles(50);
+        CHECK.due("what was put", x.cell(1), 5);
+        x = Check.of("late 9;reg c 5;load a a 8;store c a 1;set c 9;");
+        x.cycles(5);
+        CHECK.due("the worker's c", x.register(2), 9);
+        CHECK.due("queue(2, 0)", x.queue(2, 0), 5);
+        x.cycles(50);
+        CHECK.due("what was given", x.cell(1), 5);
+        x = Check.of("late 9;keep c;reg c 5;load b a 8;add d b c;set c 9;");
+        x.cycles(5);
+        CHECK.due("the runner's c", x.register(2), 9);
+        CHECK.due("queue(3, 0)", x.queue(3, 0), 5);
+        x.cycles(50);
+        CHECK.due("what was sent", x.register(3), 5);
+        x = Check.of("late 9;keep c;reg c 5;load b a 8;if c>a on;set d 1;on:set c 0;");
+        x.cycles(5);
+        CHECK.due("the runner's c", x.register(2), 0);
+        CHECK.due("queue(4, 0)", x.queue(4, 0), 1);
+        x.cycles(50);
+        CHECK.due("what was told", x.register(3), 0);
+        // The cell of a store is that of the register as it was.
+        x = Check.of("late 9;reg c 5;load b a 8;store b c 0;set c 9;");
+        x.cycles(4);
+        CHECK.due("queue(1, 0)", x.queue(1, 0), 5);
     }
 
     private static void cellInStores() {

@@ -2,7 +2,7 @@ import java.lang.reflect.Method;
 import java.lang.reflect.Modifier;
 import java.util.Random;
 
-/** No call throws, whatever it is given in whatever state; the dearest calls are bearable 512 times. */
+/** No call throws, whatever it is given in whatever state; the dearest calls are bearable as often as an object is used. */
 public final class LimitsTest {
     private static final Check CHECK = new Check();
     private static final int[] ODD = {Integer.MIN_VALUE, -1000, -2, -1, 0, 1, 2, 5, 6, 7, 8, 17, 24, 25, 31, 32, 50, 60,
@@ -46,7 +46,7 @@ public final class LimitsTest {
     private static void dearest() {
         CHECK.about("the dearest calls");
         TwoProcessors x = Check.of("up:add b b b;jump up;" + "set a 1;".repeat(22));
-        for (int i = 0; i < 512; i++) {
+        for (int i = 0; i < 500; i++) {
             CHECK.due("best()", x.best(), -1);
         }
     }

@@ -100,23 +100,35 @@ public final class NothingChangesTest {
         int[] faults = {1, 1, 2, 3, 4, 5, 2};
         for (int i = 0; i < texts.length; i++) {
             for (Map.Entry<String, Supplier<TwoProcessors>> state : STATES.entrySet()) {
-                TwoProcessors x = state.getValue().get();
-                x.image(1);
-                CHECK.due("program() of " + texts[i], Check.take(x, texts[i]), NONE);
-                CHECK.due("fault(0)", x.fault(0), faults[i]);
-                CHECK.due("count(10)", x.count(10), 0);
-                TwoProcessors y = state.getValue().get();
-                CHECK.due(state.getKey() + ", then " + texts[i], Seen.nowOfMachine(x), Seen.nowOfMachine(y));
-                x.cycles(3);
-                y.cycles(3);
-                CHECK.due(state.getKey() + ", then " + texts[i] + ", and on", Seen.nowOfMachine(x), Seen.nowOfMachine(y));
-                x.begin();
-                y.begin();
-                CHECK.due("and from the beginning", Seen.nowOfMachine(x), Seen.nowOfMachine(y));
-                CHECK.due("the image is there", x.again(1), true);
-                CHECK.due("as it was", Seen.now(x), Seen.now(state.getValue().get()));
+                refused(state.getKey(), state.getValue(), texts[i], faults[i]);
             }
         }
+    }
+
+    private static void refused(String name, Supplier<TwoProcessors> state, String text, int fault) {
+        TwoProcessors x = state.get();
+        CHECK.due("program() of " + text, Check.take(x, text), NONE);
+        CHECK.due("fault(0)", x.fault(0), fault);
+        CHECK.due("count(10)", x.count(10), 0);
+        TwoProcessors y = state.get();
+        CHECK.due(name + ", then " + text, Seen.nowOfMachine(x), Seen.nowOfMachine(y));
+        x.cycles(3);
+        y.cycles(3);
+        CHECK.due(name + ", then " + text + ", and on", Seen.nowOfMachine(x), Seen.nowOfMachine(y));
+        x = state.get();
+        x.image(1);
+        Check.take(x, text);
+        x.begin();
+        y = state.get();
+        y.begin();
+        CHECK.due(name + ", then " + text + ", and from the beginning", Seen.nowOfMachine(x), Seen.nowOfMachine(y));
+        CHECK.due("the image is there", x.again(1), true);
+        CHECK.due("as it was", Seen.now(x), Seen.now(state.get()));
+        x = state.get();
+        Check.take(x, text);
+        y = state.get();
+        CHECK.due("the runner's code stays", Check.code(x, 0), Check.code(y, 0));
+        CHECK.due("the worker's code stays", Check.code(x, 1), Check.code(y, 1));
     }
 
     private static void refusedCycles() {
@@ -196,16 +208,33 @@ public final class NothingChangesTest {
         CHECK.about("'Image k is all that is (the tape, the FAULT, the PROGRAM, too), as it is now'; 'All that is is as image k has it'");
         for (int k = 0; k < 3; k++) {
             for (Map.Entry<String, Supplier<TwoProcessors>> state : STATES.entrySet()) {
-                TwoProcessors x = state.getValue().get();
-                String due = Seen.whole(state.getValue().get());
-                CHECK.due("image(" + k + ")", x.image(k), true);
-                disturb(x);
-                CHECK.due("again(" + k + ")", x.again(k), true);
-                CHECK.due("as " + state.getKey(), Seen.whole(x), due);
-                CHECK.due("again(" + k + "), once more", x.again(k), true);
-                CHECK.due("as " + state.getKey() + ", once more", Seen.whole(x), due);
+                has(k, state.getKey(), state.getValue());
             }
         }
+    }
+
+    private static void has(int k, String name, Supplier<TwoProcessors> state) {
+        TwoProcessors x = state.get();
+        CHECK.due("image(" + k + ")", x.image(k), true);
+        disturb(x);
+        CHECK.due("again(" + k + ")", x.again(k), true);
+        CHECK.due("as " + name, Seen.whole(x), Seen.whole(state.get()));
+        x = state.get();
+        x.image(k);
+        for (int i = 0; i < 3; i++) {
+            disturb(x);
+            CHECK.due("again(" + k + ")", x.again(k), true);
+            x.cycles(2);
+            CHECK.due("again(" + k + "), once more", x.again(k), true);
+        }
+        CHECK.due("as " + name + ", once more", Seen.whole(x), Seen.whole(state.get()));
+        x = state.get();
+        x.image(k);
+        disturb(x);
+        x.again(k);
+        TwoProcessors y = state.get();
+        CHECK.due("the runner's code as " + name, Check.code(x, 0), Check.code(y, 0));
+        CHECK.due("the worker's code as " + name, Check.code(x, 1), Check.code(y, 1));
     }
 
     /** Changes the tape, the fault, the program, the rooms, and goes on. */
@@ -222,30 +251,29 @@ public final class NothingChangesTest {
 
     private static void imagesStandAlone() {
         CHECK.about("an image stays as it was, whatever comes behind, and whatever other images there are");
-        TwoProcessors x = underWay(MANY, 3);
-        x.image(0);
-        x.cycles(3);
-        x.image(1);
-        x.cycles(4);
-        x.image(2);
         int[] nows = {3, 6, 10};
-        for (int k : new int[] {1, 0, 2, 2, 0, 1}) {
-            CHECK.due("again(" + k + ")", x.again(k), true);
-            CHECK.due("image " + k, Seen.now(x), Seen.now(underWay(MANY, nows[k])));
-            x.cycles(2);
-            x.room(3, 1);
-            x.end(3);
+        int[] order = {1, 0, 2, 2, 0, 1};
+        for (int last = 0; last < order.length; last++) {
+            TwoProcessors x = threeImages();
+            for (int i = 0; i <= last; i++) {
+                x.cycles(2);
+                x.room(3, 1);
+                x.end(3);
+                CHECK.due("again(" + order[i] + ")", x.again(order[i]), true);
+            }
+            CHECK.due("image " + order[last], Seen.now(x), Seen.now(underWay(MANY, nows[order[last]])));
         }
         // Taken anew, it is what is then; the others stay.
-        x.again(2);
-        x.image(0);
-        x.again(1);
-        x.again(0);
-        CHECK.due("image 0, taken anew", Seen.whole(x), Seen.whole(underWay(MANY, 10)));
-        x.again(1);
-        CHECK.due("image 1", Seen.whole(x), Seen.whole(underWay(MANY, 6)));
+        for (int k = 0; k < 2; k++) {
+            TwoProcessors x = threeImages();
+            x.again(2);
+            x.image(0);
+            x.again(1 - k);
+            x.again(k);
+            CHECK.due("image " + k + ", image 0 taken anew", Seen.whole(x), Seen.whole(underWay(MANY, k == 0 ? 10 : 6)));
+        }
         // From the beginning of the image's program, with its rooms.
-        x = underWay(MANY, 5);
+        TwoProcessors x = underWay(MANY, 5);
         x.image(2);
         disturb(x);
         x.again(2);
@@ -255,6 +283,17 @@ public final class NothingChangesTest {
         CHECK.due("roomOf(0), as told", x.roomOf(0), 2);
         CHECK.due("time()", x.time(), 15);
         CHECK.due("cycles(50)", x.cycles(50), 15);
+    }
+
+    /** Of 3, 6 and 10. */
+    private static TwoProcessors threeImages() {
+        TwoProcessors x = underWay(MANY, 3);
+        x.image(0);
+        x.cycles(3);
+        x.image(1);
+        x.cycles(4);
+        x.image(2);
+        return x;
     }
 
     private static void imagesBounds() {

@@ -24,7 +24,9 @@ public final class RulesTest {
     public static void main(String[] args) throws IOException {
         face();
         classes();
-        words(Files.readString(Path.of("src/main/java/TwoProcessors.java")));
+        String source = Files.readString(Path.of("src/main/java/TwoProcessors.java"));
+        words(source);
+        lengths(source);
         CHECK.finish();
     }
 
@@ -79,6 +81,24 @@ public final class RulesTest {
             CHECK.due("private " + m.getName() + " bears the name of a public one",
                 Modifier.isPrivate(m.getModifiers()) && open.contains(m.getName()), false);
         }
+    }
+
+    private static void lengths(String source) {
+        CHECK.about("methods of some sixty lines at most");
+        String[] lines = source.split("\n");
+        int found = 0;
+        for (int i = 0; i < lines.length; i++) {
+            Matcher head = Pattern.compile("^( {4}| {8})(?!if |for |while |switch )[\\w<>\\[\\]][\\w<>\\[\\] ]*\\(.*\\) \\{$").matcher(lines[i]);
+            if (head.matches()) {
+                int end = i;
+                while (end < lines.length && !lines[end].equals(head.group(1) + "}")) {
+                    end++;
+                }
+                CHECK.due(lines[i].trim() + " is short", end - i < 60, true);
+                found++;
+            }
+        }
+        CHECK.due("methods are found", found > 100, true);
     }
 
     private static void words(String source) {

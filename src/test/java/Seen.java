@@ -1,4 +1,4 @@
-/** What an object shows, as one text, so that two objects can be compared: below 512 calls for a short program. */
+/** What an object shows, as one text, so that two can be compared; of a short program, with some 150 calls, or 300. */
 final class Seen {
     private final StringBuilder all = new StringBuilder();
     private final TwoProcessors x;
@@ -85,11 +85,15 @@ final class Seen {
         }
     }
 
+    /** Of each deed its first sign alone: with all signs, an object would be asked more than its 512 calls. */
     private void code() {
         for (int side = 0; side < 2; side++) {
-            all.append(Check.code(x, side)).append('\n');
             for (int i = 0; i <= x.count(2); i++) {
-                add("did" + side + "/" + i, x.did(side, i, 0), x.did(side, i, 1));
+                int deeds = x.deeds(side, i);
+                add("deeds" + side + "/" + i, deeds);
+                for (int k = 0; k < deeds; k++) {
+                    add("", x.text(side, i, k, 0), x.did(side, i, k));
+                }
             }
         }
     }

@@ -10,9 +10,7 @@ public final class TextBoundsTest {
 
     public static void main(String[] args) {
         tapeOf600();
-        bytesBetween();
-        bytesInANumber();
-        bytesAtTheBeginning();
+        everyByte();
         tokensAsLongAsTheyGo();
         digits();
         letters();
@@ -73,83 +71,31 @@ public final class TextBoundsTest {
         fault("late 1;".repeat(84) + "cell 31 999", 1, 599);
     }
 
-    /** Whether a byte, alone, is a token, goes into one, or can't stand; here '0' .. '9' by "1", letters by "a". */
-    private static String kindOf(int b) {
-        if (b == 10 || b == 32) {
-            return " ";
-        }
-        if (b >= 'a' && b <= 'z') {
-            return "a";
-        }
-        if (b >= '0' && b <= '9') {
-            return "1";
-        }
-        return b == ';' ? ";" : "#";
-    }
-
-    private static void bytesBetween() {
-        CHECK.about("'blanks (10, 32) between', every byte behind a word");
+    /** Each byte between the two; blanks are fine, and all others give a fault and a place, by what they are. */
+    private static void everyByte(String ahead, String behind, int[] letter, int[] digit, int[] semicolon, int[] other) {
         for (int b = 0; b < 256; b++) {
-            String text = "end" + (char) b + ";";
-            switch (kindOf(b)) {
-                case " ":
-                    fine(text);
-                    break;
-                case "a":
-                    // A NAME of four letters, ahead of ';'.
-                    fault(text, 1, 4);
-                    break;
-                case ";":
-                    fault(text, 1, 4);
-                    break;
-                default:
-                    fault(text, 1, 3);
-                    break;
+            String text = ahead + (char) b + behind;
+            if (b == 10 || b == 32) {
+                fine(text);
+            } else {
+                int[] due = b >= 'a' && b <= 'z' ? letter : b >= '0' && b <= '9' ? digit : b == ';' ? semicolon : other;
+                fault(text, due[0], due[1]);
             }
         }
     }
 
-    private static void bytesInANumber() {
+    private static void everyByte() {
+        CHECK.about("'TOKENS .. blanks (10, 32) between', every byte behind a word");
+        int[] at4 = {1, 4};
+        everyByte("end", ";", at4, new int[] {1, 3}, at4, new int[] {1, 3});
         CHECK.about("'NUMBERS, 1 to 3 digits', every byte behind a digit");
-        for (int b = 0; b < 256; b++) {
-            String text = "late 1" + (char) b + ";";
-            switch (kindOf(b)) {
-                case " ":
-                    fine(text);
-                    break;
-                case "1":
-                    // 10 .. 19 are NUMBERS, but LATE can't be so.
-                    fault(text, 2, 5);
-                    break;
-                case ";":
-                    fault(text, 1, 7);
-                    break;
-                default:
-                    fault(text, 1, 6);
-                    break;
-            }
-        }
-    }
-
-    private static void bytesAtTheBeginning() {
-        CHECK.about("'the first byte or token with which no text goes on', every byte at the beginning");
-        for (int b = 0; b < 256; b++) {
-            String text = (char) b + "end;";
-            switch (kindOf(b)) {
-                case " ":
-                    fine(text);
-                    break;
-                case "a":
-                    fault(text, 1, 4);
-                    break;
-                default:
-                    fault(text, 1, 0);
-                    break;
-            }
-            if (!kindOf(b).equals(" ") && !kindOf(b).equals(";")) {
-                fault("end;" + (char) b, 1, 4);
-            }
-        }
+        int[] at6 = {1, 6};
+        // 10 .. 19 are NUMBERS, but LATE can't be so.
+        everyByte("late 1", ";", at6, new int[] {2, 5}, new int[] {1, 7}, at6);
+        CHECK.about("'the first byte or token with which no text goes on', every byte at the beginning, and at the end");
+        int[] at0 = {1, 0};
+        everyByte("", "end;", at4, at0, at0, at0);
+        everyByte("end;", "", at4, at4, at4, at4);
     }
 
     private static void tokensAsLongAsTheyGo() {
